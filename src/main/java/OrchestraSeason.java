@@ -49,7 +49,6 @@ public final class OrchestraSeason {
     private static final int COSTS_ALL = 3;
 
     private final byte[] buffer = new byte[BUFFER_LIMIT];
-    private final Parser parser = new Parser(buffer);
     private final Caster caster = new Caster();
     private final Plan plan = new Plan();
     /** What the plan would be after a change; every change is made here first. */
@@ -96,13 +95,14 @@ public final class OrchestraSeason {
 
     public int parse(int length) throws IllegalArgumentException {
         requireArgument(length >= 0 && length <= bufferLength);
-        int error = parser.read(length, spare);
+        Parser parser = new Parser(new Reader(buffer, length), spare);
+        parser.read();
         lastErrorPosition = parser.errorAt;
         bufferLength = 0;
-        if (error == 0) {
+        if (parser.error == 0) {
             begin();
         }
-        return error;
+        return parser.error;
     }
 
     private void begin() {
@@ -402,6 +402,7 @@ public final class OrchestraSeason {
     public int recast(int service) throws IndexOutOfBoundsException {
         requireService(service);
         draft.copyFrom(plan);
+        draft.clearCast(service);
         castInDraft(service);
         acceptDraft();
         return Ledger.doublingsIn(season, plan, service);
@@ -487,8 +488,8 @@ public final class OrchestraSeason {
         return number;
     }
 
+    /** Finds the cast of a service of the draft that has none. */
     private void castInDraft(int service) {
-        draft.clearCast(service);
         int free = freePlayers(draft, draft.slots[service]);
         for (int work = 0; work < season.works.count; work++) {
             if (has(draft.workSets[service], work) && caster.castWork(season, work, free) != NONE) {
@@ -680,8 +681,8 @@ public final class OrchestraSeason {
         private final int[] seatCounts = new int[MAX_WORKS];
         private final int[] seats = new int[MAX_WORKS * MAX_SEATS];
 
+        /** Makes it ready for the next text, which tells the days in any case. */
         void clear() {
-            days = 1;
             doubleFee = 0;
             isDoubleTold = false;
             halls.count = 0;
@@ -1054,7 +1055,7 @@ public final class OrchestraSeason {
     /** Splits a text into tokens. */
     private static final class Reader {
         private final byte[] text;
-        private int length;
+        private final int length;
         private int next;
         /** The current token: its kind, its position, and its word's code or its number. */
         private int kind;
@@ -1062,14 +1063,9 @@ public final class OrchestraSeason {
         private long word;
         private int number;
 
-        Reader(byte[] text) {
+        Reader(byte[] text, int length) {
             this.text = text;
-        }
-
-        void open(int textLength) {
-            length = textLength;
-            next = 0;
-            advance();
+            this.length = length;
         }
 
         void advance() {
@@ -1077,60 +1073,49 @@ public final class OrchestraSeason {
                 next++;
             }
             start = next;
+            word = 0;
+            number = 0;
             if (next >= length) {
                 kind = TOKEN_END;
             } else if (isLetter(text[next])) {
-                readWord();
+                while (next < length && isLetter(text[next])) {
+                    word = withLetter(word, text[next]);
+                    next++;
+                }
+                kind = next - start <= MAX_LETTERS ? TOKEN_WORD : TOKEN_INVALID;
             } else if (isDigit(text[next])) {
-                readNumber();
+                while (next < length && isDigit(text[next])) {
+                    number = number * 10 + (text[next] - '0');
+                    next++;
+                }
+                kind = next - start <= MAX_DIGITS ? TOKEN_NUMBER : TOKEN_INVALID;
             } else {
                 kind = text[next] == ';' ? TOKEN_SEMICOLON : TOKEN_INVALID;
                 next++;
             }
-        }
-
-        private void readWord() {
-            word = 0;
-            while (next < length && isLetter(text[next])) {
-                word = withLetter(word, text[next]);
-                next++;
-            }
-            kind = next - start <= MAX_LETTERS ? TOKEN_WORD : TOKEN_INVALID;
-        }
-
-        private void readNumber() {
-            number = 0;
-            while (next < length && isDigit(text[next])) {
-                number = number * 10 + (text[next] - '0');
-                next++;
-            }
-            kind = next - start <= MAX_DIGITS ? TOKEN_NUMBER : TOKEN_INVALID;
         }
     }
 
     /** Reads a text into a season. Its methods answer false at the first error, which is then kept. */
     private static final class Parser {
         private final Reader reader;
-        private Season season;
+        private final Season season;
+        /** The code of the error, 0 as long as there is none. */
         private int error;
-        private int errorAt;
+        private int errorAt = NONE;
 
-        Parser(byte[] text) {
-            reader = new Reader(text);
+        Parser(Reader reader, Season season) {
+            this.reader = reader;
+            this.season = season;
         }
 
-        /** Answers the code of the error, 0 if there is none. */
-        int read(int length, Season target) {
-            season = target;
+        void read() {
             season.clear();
-            error = 0;
-            errorAt = NONE;
-            reader.open(length);
+            reader.advance();
             boolean isRight = readDays();
-            for (int i = 0; i < length && isRight && reader.kind != TOKEN_END; i++) {
+            for (int i = 0; i < BUFFER_LIMIT && isRight && reader.kind != TOKEN_END; i++) {
                 isRight = readStatement() && readSemicolon();
             }
-            return error;
         }
 
         private boolean readDays() {

@@ -54,7 +54,7 @@ final class ChangeTest {
         Checks.due("concert(0, 3, 7)", 1, x.concert(0, 3, 7));
         Checks.due("service(1, 2)", 1, x.service(1, 2));
         Checks.due("service(1, 3)", 7, x.service(1, 3));
-        Checks.due("concert(1, 0, 4), the same slot", -1, x.whyNot(1, 0, 4, true) == 5 ? -1 : 0);
+        Checks.due("the only oboe is busy, whyNot(1, 0, 4, true)", 5, x.whyNot(1, 0, 4, true));
         Checks.due("concert(1, 2, 4)", 1, x.concert(1, 2, 4));
         Checks.due("size(7)", 3, x.size(7));
         Checks.badState("one of two works unrehearsed", () -> x.concert(1, 0, 5));
@@ -159,7 +159,7 @@ final class ChangeTest {
         Checks.outOfBounds("recast(-1)", () -> x.recast(-1));
         OrchestraSeason y = Texts.season(TEXT);
         y.rehearse(1, 1, 0);
-        y.concert(1, 4, 15 - 2 - 8);
+        y.concert(1, 4, 5);
         Checks.due("recast of a concert", 0, y.recast(1));
         Checks.due("cast(1, 0, 0)", 0, y.cast(1, 0, 0));
         Checks.due("cast(1, 2, 0)", 1, y.cast(1, 2, 0));
@@ -186,6 +186,11 @@ final class ChangeTest {
         Checks.due("setContract(0, 40)", 2, x.setContract(0, 40));
         Checks.due("setContract(0, 0)", 40, x.setContract(0, 0));
         Checks.due("setContract(0, 0) again", 0, x.setContract(0, 0));
+        x.rehearse(0, 0, 0);
+        x.undo();
+        x.setContract(1, 1);
+        Checks.due("setContract alters nothing else, size(5)", 0, x.size(5));
+        x.undo();
         Checks.due("player(0, 0)", 0, x.player(0, 0));
         Checks.due("player(1, 0)", 1, x.player(1, 0));
         Checks.due("size(7)", 3, x.size(7));

@@ -79,8 +79,12 @@ final class CostTest {
         x.setContract(2, 0);
         x.rehearse(0, 1, 0);
         Checks.dueFalse("isBalanced() with two beyond", x.isBalanced());
-        x.setContract(0, 2);
         x.setContract(1, 2);
+        Checks.dueFalse("isBalanced() with the first player alone beyond", x.isBalanced());
+        x.setContract(0, 2);
+        x.setContract(2, 1);
+        Checks.dueFalse("isBalanced() with the last player alone below", x.isBalanced());
+        x.setContract(2, 0);
         Checks.dueTrue("isBalanced() again", x.isBalanced());
     }
 

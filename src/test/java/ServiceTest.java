@@ -174,7 +174,7 @@ final class ServiceTest {
 
     private static void promise16Order() {
         OrchestraSeason x = Texts.season(TEXT);
-        x.rehearse(0, 9, 0 + 1);
+        x.rehearse(0, 9, 1);
         Checks.due("outside its days, hall taken, unrehearsed", 2, x.whyNot(0, 9, 1, true));
         Checks.due("hall taken, unrehearsed, without cast", 3, x.whyNot(0, 9, 4, true));
         Checks.due("unrehearsed, without cast", 4, x.whyNot(1, 9, 4, true));

@@ -9,6 +9,8 @@ final class TextTest {
         promise3ParseReplaces();
         promise3ParseLength();
         promise3WholeSeason();
+        promise3OneObjectManyTexts();
+        promise3FullBuffer();
         tokens();
         grammar();
         doubleNames();
@@ -136,6 +138,46 @@ final class TextTest {
         Checks.dueFalse("isFree(0, 2)", x.isFree(0, 2));
         Checks.dueTrue("isFree(0, 3)", x.isFree(0, 3));
         Checks.dueTrue("isFree(1, 89)", x.isFree(1, 89));
+    }
+
+    private static void promise3OneObjectManyTexts() {
+        OrchestraSeason x = new OrchestraSeason();
+        String full = "days 30;hall a 1;player p 1 1 c d e f;player q 1 1 g h i j;work w 1 2 3 4 c d e f g h;"
+                + "work v 0 0 0 0 c;double 9;absent p 29;";
+        int[] fullSizes = {30, 1, 2, 2, 8, 0, 9, 0};
+        int[] smallSizes = {2, 0, 1, 1, 1, 0, 0, 0};
+        for (int i = 0; i < 3; i++) {
+            Checks.due("the full text, time " + i, 0, Texts.parse(x, full));
+            for (int what = 0; what < 8; what++) {
+                Checks.due("full, size(" + what + ")", fullSizes[what], x.size(what));
+            }
+            Checks.due("full, player(0, 3)", 15, x.player(0, 3));
+            Checks.due("full, work(0, 4)", 6, x.work(0, 4));
+            Checks.due("full, work(1, 4)", 1, x.work(1, 4));
+            Checks.due("the small text, time " + i, 0, Texts.parse(x, "days 2;player r 1 1 j;work u 0 0 0 0 j j;"));
+            for (int what = 0; what < 8; what++) {
+                Checks.due("small, size(" + what + ")", smallSizes[what], x.size(what));
+            }
+            Checks.due("small, player(0, 3)", 1, x.player(0, 3));
+            Checks.due("small, work(0, 4)", 2, x.work(0, 4));
+            Checks.due("small, hall a", -1, Texts.find(x, 0, "a"));
+            Checks.due("small, instrument c", -1, Texts.find(x, 3, "c"));
+        }
+    }
+
+    private static void promise3FullBuffer() {
+        String blanks = " ".repeat(600);
+        Texts.season(("days 3;" + blanks).substring(0, 599) + "\n");
+        Texts.season(("days 3" + blanks).substring(0, 599) + ";");
+        wrong(("days 3;" + blanks).substring(0, 596) + "hall", 1, 600);
+        wrong(("days 3;" + blanks).substring(0, 597) + "hal", 1, 597);
+        wrong(("days 3;hall a" + blanks).substring(0, 599) + "1", 1, 600);
+        wrong(("days 3;hall a" + blanks).substring(0, 598) + "12", 3, 598);
+        wrong("a".repeat(600), 1, 0);
+        wrong("days " + "0".repeat(595), 1, 5);
+        wrong("days 3" + ";".repeat(594), 1, 7);
+        wrong("days 3;player p 1 1" + " a".repeat(290), 2, 22);
+        wrong("days 3;player p 1 1 a;work w 0 0 0 0" + " a".repeat(280), 5, 49);
     }
 
     private static void wrong(String text, int code, int position) {
