@@ -11,8 +11,16 @@ public final class AllTests {
         ServiceTest.run();
         CostTest.run();
         ChangeTest.run();
+        BufferBoundaryTest.run();
+        TextBoundaryTest.run();
+        SeasonBoundaryTest.run();
+        ServiceBoundaryTest.run();
+        ReasonBoundaryTest.run();
+        CostBoundaryTest.run();
+        ChangeBoundaryTest.run();
         RandomTest.run();
-        System.out.println("project tests: " + Checks.summary());
+        Sentences.complete();
+        System.out.println("project tests: " + Checks.summary() + ", " + Sentences.summary());
         if (Checks.failures() != 0) {
             System.exit(1);
         }

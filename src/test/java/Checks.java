@@ -2,6 +2,7 @@
 final class Checks {
     private static int passed;
     private static int failed;
+    private static String heading = "";
 
     private Checks() {
     }
@@ -12,15 +13,15 @@ final class Checks {
     }
 
     static void due(String call, long want, long got) {
-        count(want == got, call + " answered " + got + ", due is " + want);
+        tell(want == got, call + " answered " + got + ", due is " + want);
     }
 
     static void dueTrue(String call, boolean got) {
-        count(got, call + " answered false, due is true");
+        tell(got, call + " answered false, due is true");
     }
 
     static void dueFalse(String call, boolean got) {
-        count(!got, call + " answered true, due is false");
+        tell(!got, call + " answered true, due is false");
     }
 
     static void outOfBounds(String call, Call run) {
@@ -36,7 +37,7 @@ final class Checks {
     }
 
     static void dueText(String call, String want, String got) {
-        count(want.equals(got), call + " answered " + got + ", due is " + want);
+        tell(want.equals(got), call + " answered " + got + ", due is " + want);
     }
 
     /** The answer as a number, or the simple name of the exception that the call throws. */
@@ -52,21 +53,30 @@ final class Checks {
         return failed;
     }
 
+    static int count() {
+        return passed + failed;
+    }
+
+    /** What every complaint from here on begins with. */
+    static void begin(String newHeading) {
+        heading = newHeading;
+    }
+
     static String summary() {
         return passed + " checks as due, " + failed + " not";
     }
 
     private static void dueThrow(String call, String exception, Call run) {
         String got = outcome(run);
-        count(exception.equals(got), call + " answered " + got + ", due is " + exception);
+        tell(exception.equals(got), call + " answered " + got + ", due is " + exception);
     }
 
-    private static void count(boolean isRight, String complaint) {
+    private static void tell(boolean isRight, String complaint) {
         if (isRight) {
             passed++;
         } else {
             failed++;
-            System.out.println(complaint);
+            System.out.println(heading + complaint);
         }
     }
 }

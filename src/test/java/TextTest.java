@@ -169,152 +169,146 @@ final class TextTest {
         String blanks = " ".repeat(600);
         Texts.season(("days 3;" + blanks).substring(0, 599) + "\n");
         Texts.season(("days 3" + blanks).substring(0, 599) + ";");
-        wrong(("days 3;" + blanks).substring(0, 596) + "hall", 1, 600);
-        wrong(("days 3;" + blanks).substring(0, 597) + "hal", 1, 597);
-        wrong(("days 3;hall a" + blanks).substring(0, 599) + "1", 1, 600);
-        wrong(("days 3;hall a" + blanks).substring(0, 598) + "12", 3, 598);
-        wrong("a".repeat(600), 1, 0);
-        wrong("days " + "0".repeat(595), 1, 5);
-        wrong("days 3" + ";".repeat(594), 1, 7);
-        wrong("days 3;player p 1 1" + " a".repeat(290), 2, 22);
-        wrong("days 3;player p 1 1 a;work w 0 0 0 0" + " a".repeat(280), 5, 49);
-    }
-
-    private static void wrong(String text, int code, int position) {
-        OrchestraSeason x = new OrchestraSeason();
-        Checks.due("parse of \"" + text + "\"", code, Texts.parse(x, text));
-        Checks.due("errorPosition() after \"" + text + "\"", position, x.errorPosition());
+        Texts.wrong(("days 3;" + blanks).substring(0, 596) + "hall", 1, 600);
+        Texts.wrong(("days 3;" + blanks).substring(0, 597) + "hal", 1, 597);
+        Texts.wrong(("days 3;hall a" + blanks).substring(0, 599) + "1", 1, 600);
+        Texts.wrong(("days 3;hall a" + blanks).substring(0, 598) + "12", 3, 598);
+        Texts.wrong("a".repeat(600), 1, 0);
+        Texts.wrong("days " + "0".repeat(595), 1, 5);
+        Texts.wrong("days 3" + ";".repeat(594), 1, 7);
+        Texts.wrong("days 3;player p 1 1" + " a".repeat(290), 2, 22);
+        Texts.wrong("days 3;player p 1 1 a;work w 0 0 0 0" + " a".repeat(280), 5, 49);
     }
 
     private static void tokens() {
-        wrong("", 1, 0);
-        wrong("  \n", 1, 3);
-        wrong("days 1;hall abcdefghi 1;", 1, 12);
+        Texts.wrong("", 1, 0);
+        Texts.wrong("  \n", 1, 3);
+        Texts.wrong("days 1;hall abcdefghi 1;", 1, 12);
         Texts.season("days 1;hall abcdefgh 1;");
-        wrong("days 1;hall a 0001;", 1, 14);
+        Texts.wrong("days 1;hall a 0001;", 1, 14);
         Texts.season("days 001;hall a 009;");
-        wrong("days 1;hall A 1;", 1, 12);
-        wrong("days 1;hall ab_ 1;", 1, 14);
-        wrong("days 1;\t", 1, 7);
-        wrong("days 1;\r\n", 1, 7);
-        wrong("days 1:", 1, 6);
-        wrong("days -1;", 1, 5);
+        Texts.wrong("days 1;hall A 1;", 1, 12);
+        Texts.wrong("days 1;hall ab_ 1;", 1, 14);
+        Texts.wrong("days 1;\t", 1, 7);
+        Texts.wrong("days 1;\r\n", 1, 7);
+        Texts.wrong("days 1:", 1, 6);
+        Texts.wrong("days -1;", 1, 5);
         Texts.season("days1;hall a1;player b1 2c d;absent b0;");
-        wrong("days 1;halls a 1;", 1, 7);
-        wrong("abcdefghijklmnopqrstuvwxyzabcdefghijdays 1;", 1, 0);
-        wrong("days 1;hall a `1;", 1, 14);
-        wrong("days 1;hall a {1;", 1, 14);
-        wrong("days 1;hall a /1;", 1, 14);
-        wrong("days 1;hall 1;", 1, 12);
+        Texts.wrong("days 1;halls a 1;", 1, 7);
+        Texts.wrong("abcdefghijklmnopqrstuvwxyzabcdefghijdays 1;", 1, 0);
+        Texts.wrong("days 1;hall a `1;", 1, 14);
+        Texts.wrong("days 1;hall a {1;", 1, 14);
+        Texts.wrong("days 1;hall a /1;", 1, 14);
+        Texts.wrong("days 1;hall 1;", 1, 12);
     }
 
     private static void grammar() {
-        wrong("day 1;", 1, 0);
-        wrong("hall a 1;", 1, 0);
-        wrong("days", 1, 4);
-        wrong("days  ", 1, 6);
-        wrong("days x;", 1, 5);
-        wrong("days 1", 1, 6);
-        wrong("days 1 2;", 1, 7);
-        wrong("days 1;;", 1, 7);
-        wrong("days 1;3;", 1, 7);
-        wrong("days 1;days 1;", 1, 7);
-        wrong("days 1;hall", 1, 11);
-        wrong("days 1;hall;", 1, 11);
-        wrong("days 1;hall a;", 1, 13);
-        wrong("days 1;hall a b;", 1, 14);
-        wrong("days 1;hall a 1", 1, 15);
-        wrong("days 1;hall a 1 1;", 1, 16);
-        wrong("days 1;player p 1 1;", 1, 19);
-        wrong("days 1;player p 1 1 a 2;", 1, 22);
-        wrong("days 1;player p 1 1 a", 1, 21);
-        wrong("days 1;player p 1 a;", 1, 18);
-        wrong("days 1;player p a;", 1, 16);
-        wrong("days 1;player 7 1 1 a;", 1, 14);
-        wrong("days 1;player p 1 1 a;absent 0;", 1, 29);
-        wrong("days 1;player p 1 1 a;absent p;", 1, 30);
-        wrong("days 1;player p 1 1 a;absent p p;", 1, 31);
-        wrong("days 1;player p 1 1 a;work w 0 0 0 a;", 1, 35);
-        wrong("days 1;player p 1 1 a;work w 0 0 0 0;", 1, 36);
-        wrong("days 1;player p 1 1 a;work w 0 0 0 0 a 1;", 1, 39);
-        wrong("days 1;player p 1 1 a;work w 0 0 0 0", 1, 36);
-        wrong("days 1;double;", 1, 13);
-        wrong("days 1;double a;", 1, 14);
-        wrong("days 1;double 1 1;", 1, 16);
+        Texts.wrong("day 1;", 1, 0);
+        Texts.wrong("hall a 1;", 1, 0);
+        Texts.wrong("days", 1, 4);
+        Texts.wrong("days  ", 1, 6);
+        Texts.wrong("days x;", 1, 5);
+        Texts.wrong("days 1", 1, 6);
+        Texts.wrong("days 1 2;", 1, 7);
+        Texts.wrong("days 1;;", 1, 7);
+        Texts.wrong("days 1;3;", 1, 7);
+        Texts.wrong("days 1;days 1;", 1, 7);
+        Texts.wrong("days 1;hall", 1, 11);
+        Texts.wrong("days 1;hall;", 1, 11);
+        Texts.wrong("days 1;hall a;", 1, 13);
+        Texts.wrong("days 1;hall a b;", 1, 14);
+        Texts.wrong("days 1;hall a 1", 1, 15);
+        Texts.wrong("days 1;hall a 1 1;", 1, 16);
+        Texts.wrong("days 1;player p 1 1;", 1, 19);
+        Texts.wrong("days 1;player p 1 1 a 2;", 1, 22);
+        Texts.wrong("days 1;player p 1 1 a", 1, 21);
+        Texts.wrong("days 1;player p 1 a;", 1, 18);
+        Texts.wrong("days 1;player p a;", 1, 16);
+        Texts.wrong("days 1;player 7 1 1 a;", 1, 14);
+        Texts.wrong("days 1;player p 1 1 a;absent 0;", 1, 29);
+        Texts.wrong("days 1;player p 1 1 a;absent p;", 1, 30);
+        Texts.wrong("days 1;player p 1 1 a;absent p p;", 1, 31);
+        Texts.wrong("days 1;player p 1 1 a;work w 0 0 0 a;", 1, 35);
+        Texts.wrong("days 1;player p 1 1 a;work w 0 0 0 0;", 1, 36);
+        Texts.wrong("days 1;player p 1 1 a;work w 0 0 0 0 a 1;", 1, 39);
+        Texts.wrong("days 1;player p 1 1 a;work w 0 0 0 0", 1, 36);
+        Texts.wrong("days 1;double;", 1, 13);
+        Texts.wrong("days 1;double a;", 1, 14);
+        Texts.wrong("days 1;double 1 1;", 1, 16);
     }
 
     private static void doubleNames() {
-        wrong("days 1;hall a 1;hall a 1;", 2, 21);
-        wrong("days 1;player a 1 1 x;player a 1 1 x;", 2, 29);
-        wrong("days 1;player a 1 1 x;work a 0 0 0 0 x;work a 0 0 0 0 x;", 2, 44);
+        Texts.wrong("days 1;hall a 1;hall a 1;", 2, 21);
+        Texts.wrong("days 1;player a 1 1 x;player a 1 1 x;", 2, 29);
+        Texts.wrong("days 1;player a 1 1 x;work a 0 0 0 0 x;work a 0 0 0 0 x;", 2, 44);
         Texts.season("days 1;hall a 1;player a 1 1 a;work a 0 0 0 0 a;");
-        wrong("days 1;player a 1 1 x y x;", 2, 24);
-        wrong("days 1;player a 1 1 x x;", 2, 22);
+        Texts.wrong("days 1;player a 1 1 x y x;", 2, 24);
+        Texts.wrong("days 1;player a 1 1 x x;", 2, 22);
         Texts.season("days 1;player a 1 1 x;player b 1 1 x;");
-        wrong("days 2;player a 1 1 x;absent a 1;absent a 0;absent a 1;", 2, 53);
+        Texts.wrong("days 2;player a 1 1 x;absent a 1;absent a 0;absent a 1;", 2, 53);
         Texts.season("days 2;player a 1 1 x;player b 1 1 x;absent a 1;absent a 0;absent b 1;");
-        wrong("days 2;double 0;double 5;", 2, 16);
+        Texts.wrong("days 2;double 0;double 5;", 2, 16);
     }
 
     private static void ranges() {
-        wrong("days 0;", 3, 5);
-        wrong("days 31;", 3, 5);
+        Texts.wrong("days 0;", 3, 5);
+        Texts.wrong("days 31;", 3, 5);
         Texts.season("days 30;");
-        wrong("days 1;hall a 10;", 3, 14);
-        wrong("days 1;player p 41 1 a;", 3, 16);
+        Texts.wrong("days 1;hall a 10;", 3, 14);
+        Texts.wrong("days 1;player p 41 1 a;", 3, 16);
         Texts.season("days 1;player p 40 999 a;");
         Texts.season("days 1;player p 0 0 a;double 999;");
-        wrong("days 1;player p 1 1 a;work w 10 0 0 0 a;", 3, 29);
-        wrong("days 3;player p 1 1 a;work w 0 3 2 0 a;", 3, 31);
-        wrong("days 3;player p 1 1 a;work w 0 2 1 0 a;", 3, 33);
-        wrong("days 3;player p 1 1 a;work w 0 2 3 0 a;", 3, 33);
+        Texts.wrong("days 1;player p 1 1 a;work w 10 0 0 0 a;", 3, 29);
+        Texts.wrong("days 3;player p 1 1 a;work w 0 3 2 0 a;", 3, 31);
+        Texts.wrong("days 3;player p 1 1 a;work w 0 2 1 0 a;", 3, 33);
+        Texts.wrong("days 3;player p 1 1 a;work w 0 2 3 0 a;", 3, 33);
         Texts.season("days 3;player p 1 1 a;work w 9 2 2 999 a;");
-        wrong("days 3;player p 1 1 a;absent p 3;", 3, 31);
+        Texts.wrong("days 3;player p 1 1 a;absent p 3;", 3, 31);
         Texts.season("days 3;player p 1 1 a;absent p 2;");
     }
 
     private static void unknownNames() {
-        wrong("days 1;absent p 0;", 4, 14);
-        wrong("days 1;absent p 0;player p 1 1 a;", 4, 14);
-        wrong("days 1;player q 1 1 p;absent p 0;", 4, 29);
-        wrong("days 1;player p 1 1 a;work w 0 0 0 0 a p;", 4, 39);
-        wrong("days 1;work w 0 0 0 0 a;player p 1 1 a;", 4, 22);
+        Texts.wrong("days 1;absent p 0;", 4, 14);
+        Texts.wrong("days 1;absent p 0;player p 1 1 a;", 4, 14);
+        Texts.wrong("days 1;player q 1 1 p;absent p 0;", 4, 29);
+        Texts.wrong("days 1;player p 1 1 a;work w 0 0 0 0 a p;", 4, 39);
+        Texts.wrong("days 1;work w 0 0 0 0 a;player p 1 1 a;", 4, 22);
     }
 
     private static void tooMany() {
-        wrong("days 1;hall a 1;hall b 1;hall c 1;hall d 1;", 5, 34);
-        wrong("days 1;hall a 1;hall b 1;hall c 1;hall", 5, 34);
+        Texts.wrong("days 1;hall a 1;hall b 1;hall c 1;hall d 1;", 5, 34);
+        Texts.wrong("days 1;hall a 1;hall b 1;hall c 1;hall", 5, 34);
         String eight = "days 1;player a 1 1 x;player b 1 1 x;player c 1 1 x;player d 1 1 x;"
                 + "player e 1 1 x;player f 1 1 x;player g 1 1 x;player h 1 1 x;";
         Texts.season(eight);
-        wrong(eight + "player i 1 1 x;", 5, eight.length());
+        Texts.wrong(eight + "player i 1 1 x;", 5, eight.length());
         String five = "days 1;player p 1 1 x;work a 0 0 0 0 x;work b 0 0 0 0 x;work c 0 0 0 0 x;"
                 + "work d 0 0 0 0 x;work e 0 0 0 0 x;";
         Texts.season(five);
-        wrong(five + "work a 0 0 0 0 x;", 5, five.length());
-        wrong("days 1;player p 1 1 a b c d e;", 5, 28);
+        Texts.wrong(five + "work a 0 0 0 0 x;", 5, five.length());
+        Texts.wrong("days 1;player p 1 1 a b c d e;", 5, 28);
         String instruments = "days 1;player p 1 1 a b c d;player q 1 1 e f g h;player r 1 1 h";
         Texts.season(instruments + " a;");
-        wrong(instruments + " i;", 5, instruments.length() + 1);
+        Texts.wrong(instruments + " i;", 5, instruments.length() + 1);
         Texts.season("days 1;player p 1 1 a;work w 0 0 0 0 a a a a a a;");
-        wrong("days 1;player p 1 1 a;work w 0 0 0 0 a a a a a a a;", 5, 49);
+        Texts.wrong("days 1;player p 1 1 a;work w 0 0 0 0 a a a a a a a;", 5, 49);
     }
 
     private static void smallestCodeAtOnePosition() {
-        wrong("days 1;player p 1 1 a b c d a;", 2, 28);
-        wrong("days 1;player p 1 1 a;work w 0 0 0 0 a a a a a a b;", 4, 49);
-        wrong("days 1;player p 1 1 a b c d 5;", 1, 28);
-        wrong("days 1;player p 1 1 a b c d abcdefghi;", 1, 28);
-        wrong("days 1;hall a 1;hall b 1;hall c 1;halls", 1, 34);
-        wrong("days 1;hall a 1;hall b 1;hall c 1;halla 1;", 1, 34);
+        Texts.wrong("days 1;player p 1 1 a b c d a;", 2, 28);
+        Texts.wrong("days 1;player p 1 1 a;work w 0 0 0 0 a a a a a a b;", 4, 49);
+        Texts.wrong("days 1;player p 1 1 a b c d 5;", 1, 28);
+        Texts.wrong("days 1;player p 1 1 a b c d abcdefghi;", 1, 28);
+        Texts.wrong("days 1;hall a 1;hall b 1;hall c 1;halls", 1, 34);
+        Texts.wrong("days 1;hall a 1;hall b 1;hall c 1;halla 1;", 1, 34);
     }
 
     private static void smallestPosition() {
-        wrong("days 0;#", 3, 5);
-        wrong("days 99 99;", 3, 5);
-        wrong("days 1;hall a 1;hall a 99 99", 2, 21);
-        wrong("days 1;hall a 99", 3, 14);
-        wrong("days 1;player p 99 99", 3, 16);
+        Texts.wrong("days 0;#", 3, 5);
+        Texts.wrong("days 99 99;", 3, 5);
+        Texts.wrong("days 1;hall a 1;hall a 99 99", 2, 21);
+        Texts.wrong("days 1;hall a 99", 3, 14);
+        Texts.wrong("days 1;player p 99 99", 3, 16);
     }
 
     private static void promise4ErrorPosition() {

@@ -28,6 +28,13 @@ final class Texts {
         return x;
     }
 
+    /** A new object answers a text with this error. */
+    static void wrong(String text, int code, int position) {
+        OrchestraSeason x = new OrchestraSeason();
+        Checks.due("parse of \"" + text + "\"", code, parse(x, text));
+        Checks.due("errorPosition() after \"" + text + "\"", position, x.errorPosition());
+    }
+
     static int find(OrchestraSeason x, int kind, String name) {
         put(x, name);
         return x.find(kind);
