@@ -259,6 +259,26 @@ final class BufferBoundaryTest {
         Checks.due("size(6)", 0, x.size(6));
         Checks.due("with double again", 0, Texts.parse(x, RICH));
         Checks.due("size(6)", 8, x.size(6));
+        textsBehindEachOther();
+    }
+
+    /** Whatever two texts an object has read before, right or wrong, the third one is read as by a new object. */
+    private static void textsBehindEachOther() {
+        String[] texts = {RICH, FULL, "days 4;player m 3 3 z;absent m 1;work n 1 2 3 4 z z;", "days 1;",
+            "days 9;hall g 3;player m 9 9 q r s t;absent m 8;absent m 0;double 3;work n 9 8 8 9 t s;work",
+            "days 2;hall h 4;player y 1 1 z oboe;player n 9 9 z x;absent n 1;work m 1 1 1 1 z oboe;hall h"};
+        for (String first : texts) {
+            for (String second : texts) {
+                for (int third = 0; third < 4; third++) {
+                    OrchestraSeason x = new OrchestraSeason();
+                    Texts.parse(x, first);
+                    Texts.parse(x, second);
+                    Checks.due("the third text", 0, Texts.parse(x, texts[third]));
+                    Checks.dueText("the state behind \"" + first + "\" and \"" + second + "\"",
+                            State.of(Texts.season(texts[third])), State.of(x));
+                }
+            }
+        }
     }
 
     private static void errorChangesNothing() {

@@ -194,6 +194,9 @@ final class ChangeBoundaryTest {
             Checks.due("player(0, 0)", contract, x.player(0, 0));
         }
         Checks.due("undo()", -1, x.undo());
+        changesBehind("rehearse and undo", y -> y.rehearse(0, 0, 0) + y.undo());
+        changesBehind("cancel and undo", y -> y.cancel(1) + y.undo());
+        changesBehind("setContract and undo", y -> y.setContract(0, 0) + y.undo());
     }
 
     private static void answersOfUndo() {
@@ -210,6 +213,10 @@ final class ChangeBoundaryTest {
         x.saveSnapshot(0);
         Checks.due("questions and a snapshot, undo()", -1, x.undo());
         Checks.due("size(5)", 0, x.size(5));
+        changesBehind("whyNotMove", y -> y.whyNotMove(2, 11));
+        changesBehind("costsWith", y -> y.costsWith(0, 0, 1, false));
+        changesBehind("earliest", y -> y.earliest(0, 0, 1, true));
+        changesBehind("saveSnapshot", y -> y.saveSnapshot(1) ? 1 : 0);
     }
 
     private static void parseClearsHistory() {
@@ -224,26 +231,60 @@ final class ChangeBoundaryTest {
 
     // ---- exceptions
 
-    private static void refused(String kind, Checks.Call call, OrchestraSeason x, String before) {
-        Checks.dueText("the exception", kind, Checks.outcome(call));
-        Checks.dueText("the state behind it", before, State.of(x));
+    private static void refused(String kind, ToIntFunction<OrchestraSeason> call) {
+        OrchestraSeason x = planned();
+        Checks.dueText("the exception", kind, Checks.outcome(() -> call.applyAsInt(x)));
+        Checks.dueText("the state behind it, and what can be undone", State.withUndo(planned()), State.withUndo(x));
+        Checks.dueFalse("no slot was filled, saveSnapshot(0)", x.saveSnapshot(0));
+        Checks.dueFalse("no slot was filled, saveSnapshot(1)", x.saveSnapshot(1));
     }
 
     private static void exceptionsChangeNothing() {
+        refused("IllegalStateException", x -> x.rehearse(0, 3, 0));
+        refused("IllegalStateException", x -> x.concert(0, 3, 1));
+        refused("IllegalStateException", x -> x.cancel(0));
+        refused("IllegalStateException", x -> x.move(0, 7));
+        refused("IllegalStateException", x -> x.restoreSnapshot(0));
+        refused("IllegalArgumentException", x -> x.concert(0, 0, 0));
+        refused("IllegalArgumentException", x -> x.setContract(0, 41));
+        refused("IllegalArgumentException", x -> x.parse(1));
+        refused("IllegalArgumentException", x -> x.find(4));
+        refused("IndexOutOfBoundsException", x -> x.rehearse(0, 12, 0));
+        refused("IndexOutOfBoundsException", x -> x.concert(2, 0, 1));
+        refused("IndexOutOfBoundsException", x -> x.cancel(3));
+        refused("IndexOutOfBoundsException", x -> x.move(0, 12));
+        refused("IndexOutOfBoundsException", x -> x.recast(3));
+        refused("IndexOutOfBoundsException", x -> x.setContract(3, 1));
+        refused("IndexOutOfBoundsException", x -> x.saveSnapshot(2) ? 1 : 0);
+        refused("IndexOutOfBoundsException", x -> x.restoreSnapshot(2));
+        changesBehind("a refused cancel", y -> refusal(() -> y.cancel(0)));
+        changesBehind("a refused move", y -> refusal(() -> y.move(0, 7)));
+        changesBehind("a refused rehearsal", y -> refusal(() -> y.rehearse(0, 3, 0)));
+        changesBehind("a refused concert", y -> refusal(() -> y.concert(0, 3, 1)));
+        changesBehind("a refused contract", y -> refusal(() -> y.setContract(0, 41)));
+    }
+
+    private static int refusal(Checks.Call call) {
+        return Checks.outcome(call).length();
+    }
+
+    /** Every change behind calls that leave the state as it was is as if they had not been. */
+    private static void changesBehind(String what, ToIntFunction<OrchestraSeason> calls) {
+        isAsWithout(what + ", then rehearse", calls, x -> x.rehearse(0, 0, 1));
+        isAsWithout(what + ", then concert", calls, x -> x.concert(1, 5, 2));
+        isAsWithout(what + ", then cancel", calls, x -> x.cancel(2));
+        isAsWithout(what + ", then move", calls, x -> x.move(2, 0));
+        isAsWithout(what + ", then recast", calls, x -> x.recast(1));
+        isAsWithout(what + ", then setContract", calls, x -> x.setContract(2, 40));
+    }
+
+    private static void isAsWithout(String what, ToIntFunction<OrchestraSeason> calls,
+            ToIntFunction<OrchestraSeason> change) {
         OrchestraSeason x = planned();
-        String before = State.of(x);
-        refused("IllegalStateException", () -> x.rehearse(0, 3, 0), x, before);
-        refused("IllegalStateException", () -> x.concert(0, 3, 1), x, before);
-        refused("IllegalStateException", () -> x.cancel(0), x, before);
-        refused("IllegalStateException", () -> x.move(0, 7), x, before);
-        refused("IllegalStateException", () -> x.restoreSnapshot(0), x, before);
-        refused("IllegalArgumentException", () -> x.concert(0, 0, 0), x, before);
-        refused("IllegalArgumentException", () -> x.setContract(0, 41), x, before);
-        refused("IllegalArgumentException", () -> x.parse(1), x, before);
-        refused("IndexOutOfBoundsException", () -> x.recast(3), x, before);
-        refused("IndexOutOfBoundsException", () -> x.saveSnapshot(2) ? 1 : 0, x, before);
-        Checks.dueText("what can be undone", State.withUndo(planned()), State.withUndo(x));
-        Checks.dueFalse("no slot was filled, saveSnapshot(0)", x.saveSnapshot(0));
+        OrchestraSeason y = planned();
+        calls.applyAsInt(x);
+        Checks.due(what, change.applyAsInt(y), change.applyAsInt(x));
+        Checks.dueText(what + ", the state", State.withUndo(y), State.withUndo(x));
     }
 
     private static void indexesComeFirst() {
@@ -543,6 +584,10 @@ final class ChangeBoundaryTest {
         Checks.due("each work of a concert, cast(1, 0, 0)", 0, y.cast(1, 0, 0));
         OrchestraSeason z = twenty();
         Checks.due("the last of twenty", 0, z.recast(19));
+        OrchestraSeason alone = planned();
+        String before = State.of(alone).replace(" 3 turns", " 4 turns");
+        Checks.due("a concert, its own players are the best", 0, alone.recast(1));
+        Checks.dueText("the same cast", before, State.of(alone));
     }
 
     private static void doublingsOfRecast() {
@@ -703,7 +748,7 @@ final class ChangeBoundaryTest {
         OrchestraSeason x = planned();
         x.saveSnapshot(0);
         String saved = State.of(x).replaceFirst("3 turns", "0 turns");
-        for (int i = 0; i < 3; i++) {
+        for (int i = 0; i < 2; i++) {
             x.cancel(2);
             x.setContract(1, 20 + i);
             Checks.due("restoreSnapshot(0), time " + i, 3, x.restoreSnapshot(0));

@@ -253,8 +253,18 @@ final class CostBoundaryTest {
         x.setContract(1, 1);
         Checks.dueTrue("a concert of two works counts once", x.isBalanced());
         x.setContract(0, 2);
+        Checks.dueFalse("the first player one below", x.isBalanced());
         x.setContract(1, 0);
         Checks.dueFalse("one below and one beyond", x.isBalanced());
+        String seven = "player a 0 0 x;player b 0 0 x;player c 0 0 x;player d 0 0 x;player e 0 0 x;player f 0 0 x;"
+                + "player g 0 0 x;";
+        OrchestraSeason y = Texts.season("days 1;" + seven + "player h 1 0 x;");
+        Checks.dueFalse("the last of eight one below", y.isBalanced());
+        y.setContract(7, 0);
+        Checks.dueTrue("eight without contracts", y.isBalanced());
+        y.setContract(7, 40);
+        Texts.parse(y, "days 1;" + seven);
+        Checks.dueTrue("a player of an earlier text does not count", y.isBalanced());
     }
 
     private static void withoutClash() {

@@ -1,12 +1,17 @@
+import java.io.IOException;
 import java.lang.reflect.Constructor;
 import java.lang.reflect.Field;
 import java.lang.reflect.Method;
 import java.lang.reflect.Modifier;
+import java.nio.charset.StandardCharsets;
+import java.nio.file.Files;
 import java.util.ArrayList;
 import java.util.Collections;
 import java.util.HashSet;
 import java.util.List;
 import java.util.Set;
+import java.util.regex.Matcher;
+import java.util.regex.Pattern;
 
 /** The public face of the document, and no other member that others could see. */
 final class FaceTest {
@@ -24,7 +29,7 @@ final class FaceTest {
     private FaceTest() {
     }
 
-    static void run() {
+    static void run() throws IOException {
         Class<?> face = OrchestraSeason.class;
         Checks.due("NONE", -1, OrchestraSeason.NONE);
         Checks.dueTrue("the class is public and final",
@@ -39,6 +44,7 @@ final class FaceTest {
                     isConstant ? Modifier.isPublic(field.getModifiers()) : Modifier.isPrivate(field.getModifiers()));
         }
         methods(face);
+        exceptionsOfDocument(face);
         for (Class<?> inside : face.getDeclaredClasses()) {
             Checks.dueTrue(inside.getName() + " is private and static",
                     Modifier.isPrivate(inside.getModifiers()) && Modifier.isStatic(inside.getModifiers()));
@@ -64,6 +70,29 @@ final class FaceTest {
                         publicNames.contains(method.getName()));
             }
         }
+    }
+
+    /** The exceptions that the document's face tells for each method are those that the method declares. */
+    private static void exceptionsOfDocument(Class<?> face) throws IOException {
+        if (!Files.isReadable(Sentences.DOCUMENT)) {
+            return;
+        }
+        String document = Files.readString(Sentences.DOCUMENT, StandardCharsets.UTF_8);
+        int told = 0;
+        for (Method method : face.getDeclaredMethods()) {
+            Matcher line = Pattern.compile("\n    public \\w+ " + method.getName() + "\\([^)]*\\)( throws ([^;]*))?;")
+                    .matcher(document);
+            if (Modifier.isPublic(method.getModifiers()) && line.find()) {
+                told++;
+                StringBuilder declared = new StringBuilder();
+                for (Class<?> exception : method.getExceptionTypes()) {
+                    declared.append(declared.length() == 0 ? "" : ", ").append(exception.getSimpleName());
+                }
+                Checks.dueText(method.getName() + " throws", line.group(2) == null ? "" : line.group(2),
+                        declared.toString());
+            }
+        }
+        Checks.due("methods in the document's face", METHODS.length, told);
     }
 
     private static String signature(Method method) {

@@ -1,3 +1,6 @@
+import java.lang.reflect.Field;
+import java.lang.reflect.Method;
+import java.lang.reflect.Modifier;
 import java.nio.charset.StandardCharsets;
 import java.nio.file.Files;
 import java.nio.file.Path;
@@ -11,6 +14,9 @@ final class LanguageTest {
             "synchronized", "assert", "lambda", "instanceof", "protected", "double", "float", "var", "static\\s*\\{",
             "->", "::", "System\\.(?!arraycopy)", "Math\\.(?!max|min|abs)", "Integer\\.(?!bitCount)");
     private static final int METHOD_LINES = 60;
+    private static final int CLASSES = 12;
+    private static final int FIELDS = 20;
+    private static final int PARAMETERS = 7;
 
     private LanguageTest() {
     }
@@ -27,6 +33,31 @@ final class LanguageTest {
             Checks.dueText("the program's use of " + word, "", found.find() ? found.group() : "");
         }
         methodLengths(source);
+        sizes();
+    }
+
+    private static void sizes() {
+        Class<?>[] inside = OrchestraSeason.class.getDeclaredClasses();
+        Checks.dueTrue("the file has few classes", inside.length + 1 <= CLASSES);
+        sizesOf(OrchestraSeason.class);
+        for (Class<?> nested : inside) {
+            sizesOf(nested);
+        }
+    }
+
+    private static void sizesOf(Class<?> type) {
+        int fields = 0;
+        for (Field field : type.getDeclaredFields()) {
+            boolean isStatic = Modifier.isStatic(field.getModifiers());
+            fields += isStatic ? 0 : 1;
+            Checks.dueTrue(type.getName() + "." + field.getName() + " is no static state",
+                    !isStatic || Modifier.isFinal(field.getModifiers()));
+        }
+        Checks.dueTrue(type.getName() + " has few fields", fields <= FIELDS);
+        for (Method method : type.getDeclaredMethods()) {
+            Checks.dueTrue(type.getName() + "." + method.getName() + " has few parameters",
+                    method.getParameterCount() <= PARAMETERS);
+        }
     }
 
     private static void methodLengths(String source) {

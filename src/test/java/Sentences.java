@@ -11,7 +11,7 @@ import java.util.List;
  */
 final class Sentences {
     private static final int PROMISES = 32;
-    private static final Path DOCUMENT = Path.of("../shared/DOC.md");
+    static final Path DOCUMENT = Path.of("../shared/DOC.md");
 
     private record Sentence(int promise, String words) {
     }
