@@ -1002,53 +1002,40 @@ public final class OrchestraSeason {
          * has which seat does not matter for these.
          */
         private final int[] fewest = new int[1 << MAX_PLAYERS];
+        /** For each such set the first player on the next seat with whom the doublings are the fewest. */
+        private final int[] firstPlayers = new int[1 << MAX_PLAYERS];
 
         /** Casts a work from free players; answers the number of doublings, NONE if there is no cast. */
         int castWork(Season season, int work, int free) {
             int seatCount = season.seatCounts[work];
             for (int seated = firstBits(MAX_PLAYERS); seated >= 0; seated--) {
                 int seat = Integer.bitCount(seated);
-                if ((seated & ~free) == 0 && seat <= seatCount) {
-                    fewest[seated] = seat == seatCount ? 0
-                            : fewestFrom(season, season.instrumentOfSeat(work, seat), free & ~seated, seated);
+                if (seat >= seatCount) {
+                    fewest[seated] = 0;
+                } else if ((seated & ~free) == 0) {
+                    fillNextSeat(season, season.instrumentOfSeat(work, seat), free & ~seated, seated);
                 }
             }
-            if (fewest[0] >= IMPOSSIBLE) {
-                return NONE;
+            int seated = 0;
+            for (int seat = 0; seat < seatCount; seat++) {
+                cast[seat] = firstPlayers[seated];
+                seated |= 1 << cast[seat];
             }
-            chooseFirst(season, work, free);
-            return fewest[0];
+            return fewest[0] >= IMPOSSIBLE ? NONE : fewest[0];
         }
 
-        private int fewestFrom(Season season, int instrument, int candidates, int seated) {
-            int best = IMPOSSIBLE;
+        /** Candidates are tried from the first on, and only fewer doublings displace one: so the first one stays. */
+        private void fillNextSeat(Season season, int instrument, int candidates, int seated) {
+            fewest[seated] = IMPOSSIBLE;
             for (int player = 0; player < season.players.count; player++) {
                 if (has(candidates, player) && has(season.instrumentSets[player], instrument)) {
-                    best = Math.min(best, season.doublingOn(player, instrument) + fewest[seated | 1 << player]);
+                    int doublings = season.doublingOn(player, instrument) + fewest[seated | 1 << player];
+                    if (doublings < fewest[seated]) {
+                        fewest[seated] = doublings;
+                        firstPlayers[seated] = player;
+                    }
                 }
             }
-            return best;
-        }
-
-        private void chooseFirst(Season season, int work, int free) {
-            int seated = 0;
-            for (int seat = 0; seat < season.seatCounts[work]; seat++) {
-                int instrument = season.instrumentOfSeat(work, seat);
-                int player = firstFrom(season, instrument, free & ~seated, seated);
-                cast[seat] = player;
-                seated |= 1 << player;
-            }
-        }
-
-        /** The first player on a seat with whom the doublings stay the fewest. */
-        private int firstFrom(Season season, int instrument, int candidates, int seated) {
-            for (int player = 0; player < season.players.count; player++) {
-                if (has(candidates, player) && has(season.instrumentSets[player], instrument)
-                        && season.doublingOn(player, instrument) + fewest[seated | 1 << player] == fewest[seated]) {
-                    return player;
-                }
-            }
-            return NONE;
         }
     }
 

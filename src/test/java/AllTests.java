@@ -6,6 +6,7 @@ public final class AllTests {
     public static void main(String[] args) throws Exception {
         FaceTest.run();
         LanguageTest.run(args[0]);
+        ReadmeTest.run();
         TextTest.run();
         SeasonTest.run();
         ServiceTest.run();

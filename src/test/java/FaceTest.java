@@ -64,7 +64,14 @@ final class FaceTest {
         Collections.sort(due);
         Collections.sort(seen);
         Checks.dueText("the methods of the face", due.toString(), seen.toString());
-        for (Method method : face.getDeclaredMethods()) {
+        privateNames(face, publicNames);
+        for (Class<?> inside : face.getDeclaredClasses()) {
+            privateNames(inside, publicNames);
+        }
+    }
+
+    private static void privateNames(Class<?> type, Set<String> publicNames) {
+        for (Method method : type.getDeclaredMethods()) {
             if (Modifier.isPrivate(method.getModifiers())) {
                 Checks.dueFalse("private " + method.getName() + " has a public name",
                         publicNames.contains(method.getName()));

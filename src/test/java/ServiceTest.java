@@ -18,6 +18,7 @@ final class ServiceTest {
         worksOfOneConcertAreCastEachByItself();
         promise14ServiceAt();
         promise15FewestDoublings();
+        castsDoNotDependOnCastsBefore();
         promise16Order();
         promise16Days();
         promise16Halls();
@@ -170,6 +171,38 @@ final class ServiceTest {
         Checks.outOfBounds("fewestDoublings(-1, 0)", () -> x.fewestDoublings(-1, 0));
         Checks.outOfBounds("fewestDoublings(0, 12)", () -> x.fewestDoublings(0, 12));
         Checks.outOfBounds("fewestDoublings(0, -1)", () -> x.fewestDoublings(0, -1));
+    }
+
+    /** Promises 13 and 15: works of one to six seats, with and without casts, in every order of two of them. */
+    private static void castsDoNotDependOnCastsBefore() {
+        String text = "days 4;hall a 0;player p 0 0 x y z;player q 0 0 y x;player r 0 0 x z;player s 0 0 z y x;"
+                + "player t 0 0 y;player u 0 0 x y;absent p 1;absent t 2;absent s 3;absent u 3;work v 0 0 3 0 x y x z y x;"
+                + "work w 0 0 3 0 z z;work m 0 0 3 0 y y y;work n 0 0 3 0 z;work o 0 0 3 0 x x z y;";
+        for (int before = 0; before < 20; before++) {
+            OrchestraSeason used = Texts.season(text);
+            for (int after = 0; after < 20; after++) {
+                OrchestraSeason fresh = Texts.season(text);
+                int work = after / 4;
+                int slot = 3 * (after % 4);
+                used.fewestDoublings(before / 4, 3 * (before % 4));
+                String call = "(" + work + ", " + slot + ") after (" + before / 4 + ", " + 3 * (before % 4) + ")";
+                int doublings = fresh.fewestDoublings(work, slot);
+                Checks.due("fewestDoublings" + call, doublings, used.fewestDoublings(work, slot));
+                used.fewestDoublings(before / 4, 3 * (before % 4));
+                int reason = fresh.whyNot(0, slot, 1 << work, false);
+                Checks.due("whyNot" + call, doublings == -1 ? 5 : 0, reason);
+                Checks.due("whyNot of the used one" + call, reason, used.whyNot(0, slot, 1 << work, false));
+                if (reason == 0) {
+                    fresh.rehearse(0, slot, work);
+                    used.rehearse(0, slot, work);
+                    Checks.due("doublings" + call, doublings, used.service(0, 5));
+                    for (int seat = 0; seat < fresh.work(work, 4); seat++) {
+                        Checks.due("seat " + seat + " of" + call, fresh.cast(0, work, seat), used.cast(0, work, seat));
+                    }
+                    used.cancel(0);
+                }
+            }
+        }
     }
 
     private static void promise16Order() {
